@@ -947,10 +947,25 @@ public final class LayerBook {
         private void give(int[] step, long coins, int k) {
             Paper paper = paperOf(step);
             switch (step[Order.SORT]) {
-                case KEEP: reserve += coins; break;
-                case REST: rested += coins; break;
-                case PAY: if (paper != null) { paper.payInterest(coins); } break;
-                default: if (paper != null) { paper.payPrincipal(coins, k); } break;
+                case KEEP:
+                    reserve += coins;
+                    break;
+                case REST:
+                    rested += coins;
+                    break;
+                case PAY:
+                    if (paper != null) {
+                        paper.payInterest(coins);
+                    }
+                    break;
+                case OWN:
+                case PART:
+                    if (paper != null) {
+                        paper.payPrincipal(coins, k);
+                    }
+                    break;
+                default:
+                    break;
             }
         }
 

@@ -1,0 +1,54 @@
+/** Counts the answers of a test that are not as due. */
+final class Due {
+    private static int checked = 0;
+    private static int wrong = 0;
+
+    private Due() {
+    }
+
+    static void is(String call, long got, long want) {
+        checked++;
+        if (got != want) {
+            wrong++;
+            System.out.println(call + " answered " + got + ", due is " + want);
+        }
+    }
+
+    static void holds(String what, boolean so) {
+        is(what, so ? 1 : 0, 1);
+    }
+
+    /** A new object's tape gets all bytes of a text, up to eight at a time. */
+    static void feed(LayerBook book, String text) {
+        for (int i = 0; i < text.length(); i += 8) {
+            int n = Math.min(8, text.length() - i);
+            long bytes = 0;
+            for (int j = 0; j < n; j++) {
+                bytes |= (text.charAt(i + j) & 255L) << 8 * j;
+            }
+            book.feed(n, bytes);
+        }
+    }
+
+    static int text(LayerBook book, String text) {
+        feed(book, text);
+        return book.text();
+    }
+
+    static int order(LayerBook book, String text) {
+        feed(book, text);
+        return book.order();
+    }
+
+    /** The text is THE LAW from now on. */
+    static void law(LayerBook book, String text) {
+        is("a law that can be read", book.force(text(book, text)) >= 0 ? 1 : 0, 1);
+    }
+
+    static void end(String name) {
+        System.out.println(name + ": " + checked + " answers, " + wrong + " not as due");
+        if (wrong > 0 || checked == 0) {
+            System.exit(1);
+        }
+    }
+}
