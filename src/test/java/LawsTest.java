@@ -8,6 +8,7 @@ public final class LawsTest {
         saysRefused();
         lawFaults();
         opens();
+        faultsLeaveNothing();
         lawForced();
         lawsFull();
         bytesBeyondAscii();
@@ -120,7 +121,7 @@ public final class LawsTest {
             {"fail 1 2;", 7}, {"fail 1+;", 7}, {"fail 1 + * 2;", 9}, {"fail (1;", 7}, {"fail 1);", 6},
             {"fail ();", 6}, {"fail 1<2<3;", 8}, {"fail 1<2=3;", 8}, {"fail 1<not 2;", 7}, {"fail 1+not 2;", 7},
             {"fail 1 or;", 9}, {"fail and 1;", 5}, {"fail late;", 5}, {"fail A;", 5}, {"fail 1 > 2;", 7},
-            {"Fail 0;", 0}, {"failx 0;", 0}, {"fail 1or 2;lat 0", 11}, {"fail -;", 6}, {"fail not;", 8},
+            {"Fail 0;", 0}, {"failx 0;", 0}, {"failz 0;", 0}, {"afail 0;", 0}, {"fail 1or 2;lat 0", 11}, {"fail -;", 6}, {"fail not;", 8},
             {"fail 1,2;", 6}, {"fail 1\t;", 6}, {"fail lost;", 5}, {"fail not -not 1;", 10},
             {"fail0;late0;early0", 18}};
         for (Object[] c : cases) {
@@ -143,6 +144,28 @@ public final class LawsTest {
             int got = Due.text(new LayerBook(), "fail " + c[0] + ";late 0;early 0;");
             Due.is((String) c[0], got, fault == 0 ? 1 : -105 - fault);
         }
+    }
+
+    // What a text or an order with a FAULT had is not in the next one.
+    private static void faultsLeaveNothing() {
+        LayerBook x = new LayerBook();
+        x.loan(0, 5000, 0, 10);
+        StringBuilder full = new StringBuilder("fail 1");
+        while (full.length() < 140) {
+            full.append("+1");
+        }
+        Due.is("a long fault", Due.text(x, full + ";late (((((1"), -100 - full.length() - 12);
+        Due.is("a long text", Due.text(x, full + ";late 0;early 0;"), 1);
+        x.force(1);
+        Due.is("its value", x.says(0, 0), 68);
+        Due.is("a fault in five", Due.text(x, "fail (((((1;"), -111);
+        Due.is("five", Due.text(x, "fail (((((1)))));late 7;early 8;"), 2);
+        x.force(2);
+        Due.is("fail", x.says(0, 0), 1);
+        Due.is("late", x.says(0, 1), 7);
+        Due.is("an order's fault", Due.order(x, "part b 9 if not late<5;fee 3 if trip=1;x"), -139);
+        Due.is("an order", Due.order(x, "fee 2;rest"), 1);
+        steps(x, 1, new int[][] {{0, -1, 2, 0, -1, -1}, {5, -1, -1, 0, -1, -1}});
     }
 
     private static void lawForced() {

@@ -208,10 +208,14 @@ public final class LoansTest {
     }
 
     private static LayerBook lotBook(String law) {
+        return seededBook(77, law);
+    }
+
+    private static LayerBook seededBook(int seed, String law) {
         LayerBook x = new LayerBook();
         x.loan(0, 5000, 100, 12);
         x.loan(0, 5000, 100, 12);
-        x.tell(0, 77);
+        x.tell(0, seed);
         Due.law(x, law);
         x.run(1);
         return x;
@@ -231,6 +235,11 @@ public final class LoansTest {
         Due.is("x from f + l + e on pays", x.loanTold(1, 5), 0);
         x = lotBook("fail 100;late 32;early 50;");
         Due.is("x below f + l + e is early", x.loanTold(1, 5), 2);
+        // With SEED 785 the lot of loan 0 is 0, with SEED 154 it is 999.
+        Due.is("0 is not below 0", seededBook(785, "fail -9;late 0;early 0;").loanTold(0, 5), 0);
+        Due.is("0 is below 1", seededBook(785, "fail 1;late 0;early 0;").loanTold(0, 5), 3);
+        Due.is("999 is not below 999", seededBook(154, "fail 999;late 0;early 0;").loanTold(0, 5), 0);
+        Due.is("999 is below 1000", seededBook(154, "fail 9999;late 0;early 0;").loanTold(0, 5), 3);
     }
 
     private static void lateThenPays() {
@@ -364,6 +373,15 @@ public final class LoansTest {
         Due.is("interests", x.month(2, 0), 200);
         Due.is("cash", x.month(2, 5), 200);
         Due.is("advanced behind", x.count(9), 0);
+        LayerBook y = new LayerBook();
+        y.loan(3, 10000, 100, 10);
+        y.loan(3, 10000, 30, 10);
+        y.tell(2, 1);
+        Due.law(y, "fail 0;late 1000*(rate=100);early 0;");
+        y.run(2);
+        Due.is("advanced", y.month(2, 3), 100);
+        Due.is("paid back out of it, too", y.month(2, 4), 100);
+        Due.is("cash", y.month(2, 5), 30);
     }
 
     private static void runRefused() {

@@ -15,6 +15,7 @@ public final class PapersTest {
         life();
         amendRefused();
         amendAgain();
+        amendBack();
         amendKeepsCollected();
         amendTakesTripAsNow();
         paidRefused();
@@ -212,6 +213,12 @@ public final class PapersTest {
                 Due.is("month " + k + " step " + i, x.paid(k, i), want[k - 1][i]);
             }
         }
+        LayerBook all = failingBook(0, "keep 1 if lost=1000;rest");
+        all.run(3);
+        Due.is("ahead of the loss", all.paid(3, 0), 0);
+        all.tell(1, 1);
+        all.run(1);
+        Due.is("990 of a thousand", all.paid(4, 0), 0);
         LayerBook y = failingBook(50, "keep 1 if lost=500;keep 3 if not lost<500;keep 7 if lost<500;rest");
         y.run(5);
         Due.is("ahead of the loss", y.paid(3, 0), 0);
@@ -348,11 +355,53 @@ public final class PapersTest {
         Due.is("reserve", x.count(8), 50);
         Due.is("rest", x.count(11), 60 + 109 + 108);
         Due.is("life", x.life(0, 0), 4);
+        Due.is("own took nothing in month 2", x.paid(2, 1), 0);
         Due.is("amended back", x.amend(1, 0), 4);
         Due.is("with rest", x.count(11), 434);
         Due.is("none such", x.paid(4, 1), -1);
         Due.is("reserve", x.count(8), 0);
         Due.is("no principal", x.life(0, 1), 1);
+    }
+
+    // Amended to another order and back again, all is as it was.
+    private static void amendBack() {
+        LayerBook x = lossyBook();
+        for (int i = 0; i < 4; i++) {
+            x.run(5);
+        }
+        StringBuilder before = told(x);
+        Due.is("amended", x.amend(1, 0), 20);
+        Due.holds("another course", !told(x).toString().equals(before.toString()));
+        Due.is("back", x.amend(1, 1), 20);
+        Due.holds("as it was", told(x).toString().equals(before.toString()));
+        x.run(1);
+        LayerBook y = lossyBook();
+        for (int i = 0; i < 21; i++) {
+            y.run(1);
+        }
+        Due.holds("and goes on so", told(x).toString().equals(told(y).toString()));
+    }
+
+    private static StringBuilder told(LayerBook x) {
+        StringBuilder all = new StringBuilder();
+        for (int what = 0; what < 12; what++) {
+            all.append(x.count(what)).append(' ');
+        }
+        for (int p = 0; p < 2; p++) {
+            for (int what = 0; what < 6; what++) {
+                all.append(x.paperTold(p, what)).append(' ');
+            }
+            all.append(x.life(p, 0)).append('/').append(x.life(p, 1)).append(' ');
+        }
+        for (int k = 1; k <= x.count(5); k++) {
+            for (int what = 0; what < 12; what++) {
+                all.append(x.month(k, what)).append(' ');
+            }
+            for (int i = 0; i < 8; i++) {
+                all.append(x.paid(k, i)).append(' ');
+            }
+        }
+        return all;
     }
 
     private static void amendKeepsCollected() {
@@ -416,6 +465,38 @@ public final class PapersTest {
         Due.law(x, "fail 60;late 300;early 40;");
         Due.order(x, "pay a;keep 100;own a;pay b;own b if not trip=1;rest");
         x.amend(1, 1);
+        besideAsItComes(x);
+        LayerBook y = lossyBook();
+        besideAsItComes(y);
+        Due.holds("it was on in some month, and off in some", tripMonths(y) > 0 && tripMonths(y) < 20);
+    }
+
+    /** Twelve loans of which some fail now and then, with an order whose steps hang on that. */
+    private static LayerBook lossyBook() {
+        LayerBook x = new LayerBook();
+        for (int n = 0; n < 12; n++) {
+            x.loan(n % 6, 9000 + 1000 * n, 150, 24 + n);
+        }
+        x.paper(90000, 50);
+        x.paper(60000, 120);
+        x.tell(1, 35);
+        x.tell(2, 1);
+        x.trip(30, 3);
+        Due.law(x, "fail 25;late 200;early 10;");
+        Due.order(x, "pay a;pay b if trip=0;keep 3000 if lost<150;part b 20 if trip=0;own a;fee 10 if cover<120;own b;rest");
+        x.amend(1, 1);
+        return x;
+    }
+
+    private static int tripMonths(LayerBook x) {
+        int sum = 0;
+        for (int k = 1; k <= x.count(5); k++) {
+            sum += x.month(k, 10);
+        }
+        return sum;
+    }
+
+    private static void besideAsItComes(LayerBook x) {
         for (int round = 0; round < 4; round++) {
             long[] told = new long[5];
             for (int what = 0; what < 5; what++) {
