@@ -236,7 +236,7 @@ public final class LawsTest {
 
     private static void orderFaults() {
         Object[][] cases = {{"", 0}, {" \n", 2}, {"rest;", 4}, {"rest if trip=1", 5}, {"rest rest", 5}, {"pay", 3},
-            {"pay a", 5}, {"pay a;", 6}, {"pay a rest", 6}, {"pay f;rest", 4}, {"pay 1;rest", 4}, {"pay ab;rest", 4},
+            {"pay a", 5}, {"pay a;", 6}, {"pay ;rest", 4}, {"fee ;rest", 4}, {"part ;rest", 5}, {"part b ;rest", 7}, {"pay a if ;rest", 9}, {"pay a rest", 6}, {"pay f;rest", 4}, {"pay 1;rest", 4}, {"pay ab;rest", 4},
             {"fee a;rest", 4}, {"fee;rest", 3}, {"part a;rest", 6}, {"part 5 a;rest", 5}, {"keep -5;rest", 5},
             {"keep 99999;rest", 5}, {"pay a if;rest", 8}, {"pay a if pool=1;rest", 9}, {"pay a if month;rest", 14},
             {"pay a if month+1;rest", 14}, {"pay a if month<;rest", 15}, {"pay a if month<a;rest", 15},

@@ -20,6 +20,7 @@ public final class PapersTest {
         amendTakesTripAsNow();
         paidRefused();
         beside();
+        besideKeepsWhatWentBy();
         besideRefused();
         Due.end("PapersTest");
     }
@@ -213,12 +214,12 @@ public final class PapersTest {
                 Due.is("month " + k + " step " + i, x.paid(k, i), want[k - 1][i]);
             }
         }
-        LayerBook all = failingBook(0, "keep 1 if lost=1000;rest");
-        all.run(3);
-        Due.is("ahead of the loss", all.paid(3, 0), 0);
-        all.tell(1, 1);
-        all.run(1);
-        Due.is("990 of a thousand", all.paid(4, 0), 0);
+        LayerBook all = bulletBook("keep 50 if month<5;keep 7 if lost=1000;rest");
+        all.tell(1, 0);
+        Due.law(all, "fail 1000*(month=2);late 0;early 0;");
+        all.run(5);
+        Due.is("all is lost", all.month(5, 7), 10000);
+        Due.is("a thousand of a thousand", all.paid(5, 1), 7);
         LayerBook y = failingBook(50, "keep 1 if lost=500;keep 3 if not lost<500;keep 7 if lost<500;rest");
         y.run(5);
         Due.is("ahead of the loss", y.paid(3, 0), 0);
@@ -469,6 +470,20 @@ public final class PapersTest {
         LayerBook y = lossyBook();
         besideAsItComes(y);
         Due.holds("it was on in some month, and off in some", tripMonths(y) > 0 && tripMonths(y) < 20);
+    }
+
+    private static void besideKeepsWhatWentBy() {
+        LayerBook x = failingBook(50, "keep 40 if not lost<500;rest");
+        x.run(2);
+        Due.is("not sold yet", x.beside(1, 5, 0), 0);
+        Due.is("sold", x.beside(2, 5, 0), 5000);
+        LayerBook y = failingBook(50, "pay a if not lost<500;rest", 4000, 50);
+        y.run(3);
+        Due.is("lost of the first pool", y.beside(1, 5, 3), 4 * 20);
+        y.run(1);
+        LayerBook z = failingBook(50, "keep 4000 if month<5;pay a if lost=500;rest", 3000, 50);
+        z.run(4);
+        Due.is("a first beside in month 4", z.beside(1, 5, 3), 15);
     }
 
     /** Twelve loans of which some fail now and then, with an order whose steps hang on that. */
