@@ -218,13 +218,10 @@ public final class LayerBook {
             return BAD;
         }
         Order one = orders[order];
-        if (i == NONE) {
-            return one.count;
-        }
-        if (!within(i, 0, one.count - 1) || !within(what, 0, Order.FACTS - 1)) {
+        if (!within(i, NONE, one.count - 1) || !within(what, 0, Order.FACTS - 1)) {
             return BAD;
         }
-        return one.steps[i][what];
+        return i == NONE ? one.count : one.steps[i][what];
     }
 
     public int amend(int month, int order) {
@@ -290,14 +287,18 @@ public final class LayerBook {
         if (refusal != 0) {
             return refusal;
         }
-        Sheet row = sheets[sheet];
+        if (n > 0 && (!sheets[sheet].holds(from) || !sheets[sheet].holds((long) from + n - 1))) {
+            return OUTSIDE;
+        }
+        return firstUnlike(sheets[sheet].cells, from, n, k);
+    }
+
+    /** The first of n numbers that isn't what its step took in month k. */
+    private int firstUnlike(int[] numbers, int from, int n, int k) {
         int count = orderIn(k).count;
-        for (int i = 0; i < n; i++) {
-            if (!row.holds((long) from + i)) {
-                return OUTSIDE;
-            }
+        for (int i = 0; i < n && within(from + i, 0, numbers.length - 1); i++) {
             long took = i < count && i < MOST_STEPS ? months[k].took[i] : 0;
-            if (row.cells[from + i] != took) {
+            if (numbers[from + i] != took) {
                 return i;
             }
         }
@@ -522,17 +523,14 @@ public final class LayerBook {
             if (k == 1 && isKind(FIXED)) {
                 findPay(k);
             }
-            if (k == RESET_MONTH && isKind(RESET)) {
+            // No month of a loan that has ended begins any more, so its rate stays.
+            if (k == RESET_MONTH && isKind(RESET) && goesOn()) {
                 rate = Math.min(MOST_RATE, 2 * rate);
                 findPay(k);
             }
         }
 
         private void findPay(int k) {
-            // A failed loan may have outlived its months: then no payment would do, and the old one stays.
-            if (left(k) < 1 && balance > 0) {
-                return;
-            }
             long least = 0;
             long enough = balance + interest();
             for (int i = 0; i < 64 && least < enough; i++) {
@@ -661,9 +659,9 @@ public final class LayerBook {
                     sell(loan, row);
                 }
             }
-            advanced += row.advanced;
+            // What is advanced in this month is there to be paid, so only what was advanced ahead of it is paid back.
             row.paidBack = Math.min(advanced, row.interests + row.advanced);
-            advanced -= row.paidBack;
+            advanced += row.advanced - row.paidBack;
             row.poolBehind = balances();
             row.late = late();
         }

@@ -185,6 +185,12 @@ public final class HostTest {
         Due.is("another sort", x.report(1, 1, 0, 9, 1), -13);
         Due.is("outside", x.report(1, 1, 1, 0, 3), -12);
         Due.is("outside", x.report(1, 1, 1, 2, 1), -12);
+        x.cell(1, 0, 11);
+        Due.is("differs", x.report(1, 1, 1, 0, 2), 0);
+        Due.is("differs ahead of a place outside", x.report(1, 1, 1, 0, 3), -12);
+        Due.is("below, then within", x.report(1, 1, 1, -1, 3), -12);
+        Due.is("all below", x.report(1, 1, 1, -2, 2), -12);
+        Due.is("none asked", x.report(1, 1, 1, 2, 0), -1);
         Due.is("below", x.report(1, 1, 1, -1, 1), -12);
         Due.is("far", x.report(1, 1, 1, 2147483647, 10), -12);
         Due.is("far", x.report(1, 1, 1, -2147483648, 10), -12);

@@ -272,5 +272,10 @@ public final class LawsTest {
         Due.is("step -2", x.step(0, -2, 0), -2);
         Due.is("what -1", x.step(0, 0, -1), -2);
         Due.is("what 6", x.step(0, 0, 6), -2);
+        Due.is("how many, what -1", x.step(0, -1, -1), -2);
+        Due.is("how many, what 6", x.step(0, -1, 6), -2);
+        for (int what = 0; what < 6; what++) {
+            Due.is("how many", x.step(0, -1, what), 1);
+        }
     }
 }

@@ -11,7 +11,8 @@ public final class LoansTest {
         bulletLoan();
         holidayLoan();
         gradedLoan();
-        endedLoansReset();
+        endedLoansHaveNoReset();
+        lateLoansHaveReset();
         lots();
         lateThenPays();
         lateInLastMonth();
@@ -195,16 +196,40 @@ public final class LoansTest {
         Due.is("done", x.loanTold(0, 5), 5);
     }
 
-    // "From month 13 on RATE is twice what it was": of one that is done, too.
-    private static void endedLoansReset() {
+    // RATE and PAY are found anew as a month of the loan begins, and one that has ended has no month more.
+    private static void endedLoansHaveNoReset() {
         LayerBook x = new LayerBook();
         x.loan(2, 5000, 30, 3);
+        x.loan(4, 5000, 31, 20);
+        x.loan(2, 5000, 32, 20);
+        x.loan(2, 5000, 33, 20);
+        x.loan(4, 5000, 34, 20);
+        Due.law(x, "fail 1000*(month=5 and rate=31 or month=11 and rate=32);late 0;early 1000*(month=4 and rate=34);");
         x.run(12);
-        Due.is("done", x.loanTold(0, 5), 5);
-        Due.is("rate", x.loanTold(0, 2), 30);
+        x.buy(3);
+        int[] states = {5, 4, 3, 6, 2};
+        int[] pays = new int[5];
+        for (int n = 0; n < 5; n++) {
+            Due.is("state", x.loanTold(n, 5), states[n]);
+            pays[n] = x.loanTold(n, 6);
+        }
+        x.run(2);
+        for (int n = 0; n < 5; n++) {
+            Due.is("rate stays", x.loanTold(n, 2), 30 + n);
+            Due.is("pay stays", x.loanTold(n, 6), pays[n]);
+        }
+    }
+
+    private static void lateLoansHaveReset() {
+        LayerBook x = new LayerBook();
+        x.loan(2, 6000, 10, 12);
+        Due.law(x, "fail 0;late 1000*(month=12);early 0;");
+        x.run(12);
+        Due.is("late in its last month", x.loanTold(0, 5), 1);
+        int balance = x.loanTold(0, 1);
         x.run(1);
-        Due.is("rate behind the reset", x.loanTold(0, 2), 60);
-        Due.is("pay for a balance of 0", x.loanTold(0, 6), 0);
+        Due.is("rate is twice", x.loanTold(0, 2), 20);
+        Due.is("pay for the month that is left", x.loanTold(0, 6), balance + balance * 20 / 10000);
     }
 
     private static LayerBook lotBook(String law) {
@@ -358,7 +383,8 @@ public final class LoansTest {
         Due.is("nothing more comes", x.month(3, 5), 0);
     }
 
-    // ADVANCED counts what is advanced in this month, and it is paid back out of that and INTERESTS.
+    // What is advanced in a month is there to be paid; from the next month on it is paid back, out of INTERESTS and
+    // what is advanced then.
     private static void advances() {
         LayerBook x = new LayerBook();
         x.loan(3, 10000, 100, 10);
@@ -369,19 +395,41 @@ public final class LoansTest {
         x.tell(2, 1);
         x.run(1);
         Due.is("advanced", x.month(2, 3), 50);
-        Due.is("paid back", x.month(2, 4), 50);
+        Due.is("not paid back at once", x.month(2, 4), 0);
         Due.is("interests", x.month(2, 0), 200);
-        Due.is("cash", x.month(2, 5), 200);
+        Due.is("cash", x.month(2, 5), 250);
+        Due.is("advanced behind", x.count(9), 50);
+        x.run(1);
+        Due.is("paid back", x.month(3, 4), 50);
+        Due.is("interests with owed", x.month(3, 0), 100 + 150);
+        Due.is("cash", x.month(3, 5), 200);
         Due.is("advanced behind", x.count(9), 0);
         LayerBook y = new LayerBook();
         y.loan(3, 10000, 100, 10);
         y.loan(3, 10000, 30, 10);
         y.tell(2, 1);
-        Due.law(y, "fail 0;late 1000*(rate=100);early 0;");
-        y.run(2);
-        Due.is("advanced", y.month(2, 3), 100);
-        Due.is("paid back out of it, too", y.month(2, 4), 100);
-        Due.is("cash", y.month(2, 5), 30);
+        Due.law(y, "fail 0;late 1000*(month<3)+1000*(month<5 and rate=100);early 0;");
+        y.run(1);
+        Due.is("all are late", y.month(1, 3), 130);
+        Due.is("it is there to be paid", y.month(1, 5), 130);
+        y.run(1);
+        Due.is("without interests, out of what is advanced", y.month(2, 4), 130);
+        Due.is("cash", y.month(2, 5), 0);
+        Due.is("advanced behind", y.count(9), 130);
+        y.run(1);
+        Due.is("out of interests and what is advanced", y.month(3, 4), 130);
+        Due.is("cash", y.month(3, 5), 90 + 100 - 130);
+        Due.is("advanced behind", y.count(9), 100);
+        y.tell(2, 0);
+        y.run(1);
+        Due.is("off: nothing", y.month(4, 3), 0);
+        Due.is("as far as they go", y.month(4, 4), 30);
+        Due.is("cash", y.month(4, 5), 0);
+        Due.is("advanced behind", y.count(9), 70);
+        y.run(1);
+        Due.is("the rest", y.month(5, 4), 70);
+        Due.is("cash", y.month(5, 5), 30 + 100 + 400 - 70);
+        Due.is("advanced behind", y.count(9), 0);
     }
 
     private static void runRefused() {

@@ -140,7 +140,6 @@ def leaves(bal,rate,m,pay):
     return bal
 def findpay(bal,rate,m):
     if bal==0: return 0
-    if m<1: return None
     # linear walk from a good guess, to stay independent of a search
     lo=1; 
     p=max(0,bal//m-2)
@@ -207,9 +206,8 @@ class M:
         return ev(s.texts[s.law][p],s.loans[l],s.mo+1)
     def step(s,o,i,w):
         if not 0<=o<len(s.orders): return BAD
-        if i==-1: return len(s.orders[o])
-        if not(0<=i<len(s.orders[o]) and 0<=w<=5): return BAD
-        return s.orders[o][i][w]
+        if not(-1<=i<len(s.orders[o]) and 0<=w<=5): return BAD
+        return len(s.orders[o]) if i==-1 else s.orders[o][i][w]
     def amend(s,m,o):
         if not 0<=o<len(s.orders) or not 1<=m<=s.mo+1: return BAD
         for k in range(m,62): s.ord[k]=o
@@ -221,10 +219,9 @@ class M:
         H=dict(I=0,P=0,B=0,A=0,L=0); H['p0']=s.pool()
         for n,l in enumerate(s.loans):
             if k==1 and isa(l['kind'],1): l['pay']=findpay(l['bal'],l['rate'],l['months'])
-            if k==13 and isa(l['kind'],2):
+            if k==13 and isa(l['kind'],2) and l['st']<2:
                 l['rate']=min(200,2*l['rate'])
-                p=findpay(l['bal'],l['rate'],l['months']+1-k)
-                if p is not None: l['pay']=p
+                l['pay']=findpay(l['bal'],l['rate'],l['months']+1-k)
             if l['st']==6:
                 H['I']+=l['owed'];H['P']+=l['bal'];l['owed']=l['bal']=0
             if l['st']==3 and l['f']+3==k:
@@ -253,8 +250,8 @@ class M:
             elif K==0 or(K==5 and 3*k>2*l['months']): p=-(-l['bal']//left)
             else: p=0
             H['I']+=i;H['P']+=p;l['bal']-=p
-        s.advanced+=H['A']
-        H['R']=min(s.advanced,H['I']+H['A']);s.advanced-=H['R']
+        H['R']=min(s.advanced,H['I']+H['A'])
+        s.advanced+=H['A']-H['R']
         H['p1']=s.pool();H['late']=sum(l['st']==1 for l in s.loans)
         return H
     def pour(s,k,H):
@@ -328,8 +325,8 @@ class M:
         c=s.chk(sh,so,n)
         if c: return c
         r=s.sheets[sh][1];t=s.hist[k]['took']
+        if any(not 0<=fr+i<len(r) for i in range(n)): return -12
         for i in range(n):
-            if not 0<=fr+i<len(r): return -12
             if r[fr+i]!=(t[i] if i<len(t) else 0): return i
         return NONE
     def beside(s,n,seed,w):
