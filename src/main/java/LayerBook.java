@@ -659,9 +659,10 @@ public final class LayerBook {
                     sell(loan, row);
                 }
             }
-            // What is advanced in this month is there to be paid, so only what was advanced ahead of it is paid back.
-            row.paidBack = Math.min(advanced, row.interests + row.advanced);
-            advanced += row.advanced - row.paidBack;
+            // This month's advance is owed back at once, but out of INTERESTS alone, never out of itself.
+            advanced += row.advanced;
+            row.paidBack = Math.min(advanced, row.interests);
+            advanced -= row.paidBack;
             row.poolBehind = balances();
             row.late = late();
         }

@@ -383,8 +383,8 @@ public final class LoansTest {
         Due.is("nothing more comes", x.month(3, 5), 0);
     }
 
-    // What is advanced in a month is there to be paid; from the next month on it is paid back, out of INTERESTS and
-    // what is advanced then.
+    // What is advanced in a month is there to be paid, and counts to ADVANCED at once; ADVANCED, this month's too, is
+    // paid back out of INTERESTS alone.
     private static void advances() {
         LayerBook x = new LayerBook();
         x.loan(3, 10000, 100, 10);
@@ -395,15 +395,18 @@ public final class LoansTest {
         x.tell(2, 1);
         x.run(1);
         Due.is("advanced", x.month(2, 3), 50);
-        Due.is("not paid back at once", x.month(2, 4), 0);
+        Due.is("paid back out of interests", x.month(2, 4), 50);
         Due.is("interests", x.month(2, 0), 200);
-        Due.is("cash", x.month(2, 5), 250);
-        Due.is("advanced behind", x.count(9), 50);
-        x.run(1);
-        Due.is("paid back", x.month(3, 4), 50);
-        Due.is("interests with owed", x.month(3, 0), 100 + 150);
-        Due.is("cash", x.month(3, 5), 200);
+        Due.is("cash", x.month(2, 5), 200);
         Due.is("advanced behind", x.count(9), 0);
+        x.run(1);
+        Due.is("nothing to pay back", x.month(3, 4), 0);
+        Due.is("interests with owed", x.month(3, 0), 100 + 150);
+        Due.is("cash", x.month(3, 5), 250);
+        advancesOfManyMonths();
+    }
+
+    private static void advancesOfManyMonths() {
         LayerBook y = new LayerBook();
         y.loan(3, 10000, 100, 10);
         y.loan(3, 10000, 30, 10);
@@ -411,24 +414,27 @@ public final class LoansTest {
         Due.law(y, "fail 0;late 1000*(month<3)+1000*(month<5 and rate=100);early 0;");
         y.run(1);
         Due.is("all are late", y.month(1, 3), 130);
+        Due.is("never out of itself", y.month(1, 4), 0);
         Due.is("it is there to be paid", y.month(1, 5), 130);
         y.run(1);
-        Due.is("without interests, out of what is advanced", y.month(2, 4), 130);
-        Due.is("cash", y.month(2, 5), 0);
-        Due.is("advanced behind", y.count(9), 130);
+        Due.is("without interests nothing", y.month(2, 4), 0);
+        Due.is("cash", y.month(2, 5), 130);
+        Due.is("advanced behind", y.count(9), 260);
         y.run(1);
-        Due.is("out of interests and what is advanced", y.month(3, 4), 130);
-        Due.is("cash", y.month(3, 5), 90 + 100 - 130);
-        Due.is("advanced behind", y.count(9), 100);
+        Due.is("as far as interests go", y.month(3, 4), 90);
+        Due.is("cash", y.month(3, 5), 100);
+        Due.is("advanced behind", y.count(9), 260 + 100 - 90);
+        Due.is("beside", y.beside(2, 0, 2), 30 + 30 + 500);
+        Due.is("beside changes nothing", y.count(9), 270);
         y.tell(2, 0);
         y.run(1);
         Due.is("off: nothing", y.month(4, 3), 0);
-        Due.is("as far as they go", y.month(4, 4), 30);
+        Due.is("off: paid back all the same", y.month(4, 4), 30);
         Due.is("cash", y.month(4, 5), 0);
-        Due.is("advanced behind", y.count(9), 70);
+        Due.is("advanced behind", y.count(9), 240);
         y.run(1);
-        Due.is("the rest", y.month(5, 4), 70);
-        Due.is("cash", y.month(5, 5), 30 + 100 + 400 - 70);
+        Due.is("the rest", y.month(5, 4), 240);
+        Due.is("cash", y.month(5, 5), 30 + 100 + 400 - 240);
         Due.is("advanced behind", y.count(9), 0);
     }
 

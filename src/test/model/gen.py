@@ -1,7 +1,9 @@
-# Prints random runs of calls with the answers of model.py: python3 gen.py SEED RUNS
+# Prints random runs of calls with the answers of model.py: python3 gen.py SEED RUNS [LIVELY]
+# LIVELY hundredths of the runs begin with a law by which many loans are late or fail, and an order of many steps.
 import random,sys
 from model import *
 R=random.Random(int(sys.argv[1])); runs=int(sys.argv[2])
+lively=int(sys.argv[3]) if len(sys.argv)>3 else 0
 def expr(d):
     c=R.random()
     if d==0 or c<.3:
@@ -63,6 +65,14 @@ for _ in range(runs):
         for _ in range(3): do(m,'paper',max(1,tot//R.choice([2,3,4])),I(0,100))
     if R.random()<.7: do(m,'tell',0,R.randint(0,99999))
     if R.random()<.5: do(m,'tell',2,1)
+    if R.randrange(100)<lively:
+        while len(m.loans)<4: do(m,'loan',R.randint(0,5),R.randint(1000,99999),R.randint(1,200),R.randint(6,40))
+        while len(m.papers)<3: do(m,'paper',max(1,m.pool()//R.randint(2,6)),R.randint(0,150))
+        feed(('fail %d;late %d+50*kind;early %d;'%(R.choice([0,10,60]),R.choice([100,300,600]),R.choice([0,20]))).encode())
+        do(m,'text'); do(m,'force',1); do(m,'tell',2,1); do(m,'trip',R.choice([0,10,100]),R.randint(1,4))
+        feed(R.choice([b'fee 5;pay a;pay b;part a 60 if trip=0;own a if not trip=0;keep 500 if late<2;pay c;own b if cover<120;rest',
+            b'keep 900;pay a;pay b;pay c if lost<50;own a if month<9;part b 50;own c if not late<3;rest']))
+        do(m,'order'); do(m,'amend',1,1); do(m,'run',R.randint(2,12))
     calls=R.choice([30,100,300])
     for _ in range(calls):
         c=R.random()

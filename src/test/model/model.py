@@ -250,8 +250,9 @@ class M:
             elif K==0 or(K==5 and 3*k>2*l['months']): p=-(-l['bal']//left)
             else: p=0
             H['I']+=i;H['P']+=p;l['bal']-=p
-        H['R']=min(s.advanced,H['I']+H['A'])
-        s.advanced+=H['A']-H['R']
+        s.advanced+=H['A']
+        H['R']=min(s.advanced,H['I'])
+        s.advanced-=H['R']
         H['p1']=s.pool();H['late']=sum(l['st']==1 for l in s.loans)
         return H
     def pour(s,k,H):
