@@ -506,6 +506,17 @@ public final class BoundsPapersTest {
         x.run(12);
         Due.is("with CURE 2", x.month(11, 10), 1);
         Due.is("with CURE 2", x.month(12, 10), 0);
+        // LOSS of 102000 by a first POOL of 101000 in month 10, and LOSS in month 11, so that QUIET is 0 in both.
+        LayerBook y = new LayerBook();
+        y.loan(4, 100000, 200, 60);
+        y.loan(4, 1000, 0, 60);
+        y.tell(1, 0);
+        Due.law(y, "fail 1000*(month=7 and rate=200 or month=8);late 1000*(month<6);early 0;");
+        y.run(12);
+        Due.holds("LOSS in months 10 and 11", y.month(10, 7) == 102000 && y.month(11, 7) > 0);
+        for (int k = 9; k <= 12; k++) {
+            Due.is("CURE is 1, THE TRIP in month " + k, y.month(k, 10), k == 10 || k == 11 ? 1 : 0);
+        }
     }
 
     private static void tripOfOneCoin() {
