@@ -1069,14 +1069,15 @@ public final class LayerBook {
         }
 
         boolean takesSign(char sign) {
-            return goesOn(isSign(sign));
+            boolean fits = isSign(sign);
+            if (fits) {
+                next();
+            }
+            return fits;
         }
 
         boolean takesWord(String word) {
-            return goesOn(which(word) == 0);
-        }
-
-        private boolean goesOn(boolean fits) {
+            boolean fits = which(word) == 0;
             if (fits) {
                 next();
             }
